@@ -7,7 +7,7 @@ public final class OilTown {
     /** Where a call's own answers may be BAD's or STATE's number, the document tells these instead. */
     private static final int BAD_NAME = -5, BAD_SUM = -100000, STATE_SUM = -100002;
 
-    private static final int MAX_SIDE = 6, MAX_CELLS = 36, LOTS = 8, NO_LOT = 8, PLACES = 9, SIDES = 4;
+    private static final int MAX_SIDE = 6, MAX_CELLS = 36, LOTS = 8, NO_LOT = 8, PLACES = 9, SIDES = 4, MAX_FLOWS = 144;
     private static final int MAX_SAND = 9, MAX_TOLD = 999, MAX_WILL = 60, RESISTANCE = 40, FAR = 99;
     private static final int MAX_PERSONS = 6, MAX_LEASES = 12, MAX_WELLS = 10, MAX_FIELDS = 3;
     private static final int LAST_HOUR = 199, SHIFTS = 50, SHIFT_HOURS = 4;
@@ -41,7 +41,7 @@ public final class OilTown {
     private final Tape tape = new Tape();
     private final Orders law = new Orders();
     private final Currents currents = new Currents();
-    private final Race race = new Race(currents);
+    private final Race race = new Race();
     private final Sheet[] sheets = new Sheet[SHEETS];
 
     public OilTown() {
@@ -679,13 +679,19 @@ public final class OilTown {
     private static final class Currents {
         final int[] taken = new int[PLACES];
         private final long[] wants = new long[SIDES];
-        private final int[] oilGoes = new int[MAX_CELLS * SIDES];
-        private final int[] waterGoes = new int[MAX_CELLS * SIDES];
+        private int size;
+        private final int[] from = new int[MAX_FLOWS];
+        private final int[] to = new int[MAX_FLOWS];
+        private final int[] oil = new int[MAX_FLOWS];
+        private final int[] water = new int[MAX_FLOWS];
         private final int[] arrives = new int[MAX_CELLS * PLACES];
 
         void measure(Pool pool) {
+            size = 0;
             for (int c = 0; c < pool.size; c++) {
-                measureCell(pool, c);
+                if (pool.liquid(c) > 0) {
+                    measureCell(pool, c);
+                }
             }
         }
 
@@ -697,29 +703,38 @@ public final class OilTown {
             }
             long liquid = pool.liquid(c);
             for (int side = 0; side < SIDES; side++) {
-                long goes = sum > liquid && sum > 0 ? wants[side] * liquid / sum : wants[side];
-                oilGoes[c * SIDES + side] = liquid <= 0 ? 0 : (int) (goes * pool.oil[c] / liquid);
-                waterGoes[c * SIDES + side] = liquid <= 0 ? 0 : (int) (goes * pool.water[c] / liquid);
+                if (wants[side] > 0) {
+                    long goes = sum > liquid && sum > 0 ? wants[side] * liquid / sum : wants[side];
+                    add(pool, c, pool.beside(c, side), goes);
+                }
             }
         }
 
-        private static long wantOf(Pool pool, int c, int to) {
-            if (to == NONE || pool.push(to) >= pool.push(c)) {
+        private static long wantOf(Pool pool, int c, int other) {
+            if (other == NONE) {
                 return 0;
             }
-            return (long) (pool.push(c) - pool.push(to)) * Math.min(pool.sand[c], pool.sand[to]) / RESISTANCE;
+            long more = pool.push(c) - pool.push(other);
+            return more <= 0 ? 0 : more * Math.min(pool.sand[c], pool.sand[other]) / RESISTANCE;
+        }
+
+        private void add(Pool pool, int c, int other, long goes) {
+            long liquid = pool.liquid(c);
+            if (liquid <= 0 || size >= MAX_FLOWS) {
+                return;
+            }
+            from[size] = c;
+            to[size] = other;
+            oil[size] = (int) (goes * pool.oil[c] / liquid);
+            water[size] = (int) (goes * pool.water[c] / liquid);
+            size++;
         }
 
         /** Moves what was measured, where nobody asks of which lots the oil is. */
         void movePool(Pool pool) {
-            for (int c = 0; c < pool.size; c++) {
-                for (int side = 0; side < SIDES; side++) {
-                    int to = pool.beside(c, side);
-                    if (to != NONE) {
-                        pool.oil[c] -= oilGoes[c * SIDES + side];
-                        pool.oil[to] += oilGoes[c * SIDES + side];
-                    }
-                }
+            for (int i = 0; i < size; i++) {
+                pool.oil[from[i]] -= oil[i];
+                pool.oil[to[i]] += oil[i];
             }
             moveWater(pool);
         }
@@ -727,9 +742,10 @@ public final class OilTown {
         /** Moves what was measured, oil by lots: what arrives waits until every cell has given. */
         void moveGround(Ground ground) {
             Arrays.fill(arrives, 0);
-            for (int c = 0; c < ground.pool.size; c++) {
-                for (int side = 0; side < SIDES; side++) {
-                    giveOil(ground, c, side);
+            for (int i = 0; i < size; i++) {
+                ground.take(from[i], oil[i], taken);
+                for (int l = 0; l < PLACES; l++) {
+                    arrives[to[i] * PLACES + l] += taken[l];
                 }
             }
             for (int c = 0; c < ground.pool.size; c++) {
@@ -741,27 +757,10 @@ public final class OilTown {
             moveWater(ground.pool);
         }
 
-        private void giveOil(Ground ground, int c, int side) {
-            int to = ground.pool.beside(c, side);
-            int n = oilGoes[c * SIDES + side];
-            if (to == NONE || n <= 0) {
-                return;
-            }
-            ground.take(c, n, taken);
-            for (int l = 0; l < PLACES; l++) {
-                arrives[to * PLACES + l] += taken[l];
-            }
-        }
-
         private void moveWater(Pool pool) {
-            for (int c = 0; c < pool.size; c++) {
-                for (int side = 0; side < SIDES; side++) {
-                    int to = pool.beside(c, side);
-                    if (to != NONE) {
-                        pool.water[c] -= waterGoes[c * SIDES + side];
-                        pool.water[to] += waterGoes[c * SIDES + side];
-                    }
-                }
+            for (int i = 0; i < size; i++) {
+                pool.water[from[i]] -= water[i];
+                pool.water[to[i]] += water[i];
             }
         }
     }
@@ -827,11 +826,13 @@ public final class OilTown {
             System.arraycopy(other.person, 0, person, 0, MAX_WELLS);
             System.arraycopy(other.cell, 0, cell, 0, MAX_WELLS);
             System.arraycopy(other.will, 0, will, 0, MAX_WELLS);
-            System.arraycopy(other.isOpen, 0, isOpen, 0, MAX_WELLS);
             System.arraycopy(other.oil, 0, oil, 0, MAX_WELLS);
             System.arraycopy(other.water, 0, water, 0, MAX_WELLS);
             System.arraycopy(other.oilByLot, 0, oilByLot, 0, MAX_WELLS * PLACES);
             System.arraycopy(other.oilByShift, 0, oilByShift, 0, MAX_WELLS * SHIFTS);
+            for (int k = 0; k < MAX_WELLS; k++) {
+                isOpen[k] = other.isOpen[k];
+            }
         }
 
         int add(int p, int c, int v) {
@@ -1058,7 +1059,9 @@ public final class OilTown {
             System.arraycopy(other.rule, 0, rule, 0, MAX_LINES);
             System.arraycopy(other.from, 0, from, 0, MAX_LINES);
             System.arraycopy(other.number, 0, number, 0, MAX_LINES);
-            System.arraycopy(other.isVoid, 0, isVoid, 0, MAX_LINES);
+            for (int k = 0; k < MAX_LINES; k++) {
+                isVoid[k] = other.isVoid[k];
+            }
         }
 
         void add(int newRule, int shift, int n) {
@@ -1374,17 +1377,13 @@ public final class OilTown {
     /** What the first persons gain by drilling, by sets of those who do. */
     private static final class Race {
         private final Pool pool = new Pool();
-        private final Currents currents;
+        private final Currents currents = new Currents();
         private final int[] came = new int[MAX_PERSONS];
         private final int[] gains = new int[SETS * RACERS];
         private int racers;
         private int will;
         private int cost;
         private int hours;
-
-        Race(Currents lent) {
-            currents = lent;
-        }
 
         void prepare(int n, int newWill, int newCost, int newHours) {
             racers = n;

@@ -12,6 +12,7 @@ public final class PromisesFieldTest {
         lay();
         cellOf();
         hourFlowsAtOnce();
+        hourInTheLargestField();
         hourTakesLessSand();
         hourSharesWants();
         hourSplitsLiquid();
@@ -85,7 +86,7 @@ public final class PromisesFieldTest {
         Due.orders(x, "each 1;");
         x.drill(0, 0, 30);
         x.hour();
-        x.sell(0, 3);
+        x.sell(0, 20);
         x.keep();
         x.sheet(0, 0, 6);
         Due.feed(x, "near");
@@ -107,9 +108,15 @@ public final class PromisesFieldTest {
         x.lay(0, 3);
         due.is("drill", x.drill(0, 0, 1), 0);
         due.is("nothing drawn by a new well", x.drew(0, 0, 0), 0);
-        due.is("nothing drawn by a new well", x.wellOf(0, 4), 0);
+        for (int what : new int[] {4, 5, 6, 10, 11, 18}) {
+            due.is("nothing drawn by a new well: " + what, x.wellOf(0, what), 0);
+        }
         due.is("price(0)", x.price(0), 100);
         due.is("price(1)", x.price(1), OilTown.BAD);
+        for (int i = 0; i < 4; i++) {
+            x.hour();
+        }
+        due.is("nothing was sold in shift 0", x.price(1), 100);
     }
 
     private static void cellBounds() {
@@ -143,6 +150,14 @@ public final class PromisesFieldTest {
         x.lay(0, 7);
         x.cell(0, 5, 0, 0, 3);
         due.is("of lot 7", x.cellOf(0, 17), 3);
+        x.lay(0, 0);
+        x.lay(1, 0);
+        x.cell(0, 5, 0, 0, 4);
+        x.cell(1, 5, 0, 0, 6);
+        x.lay(0, 7);
+        x.cell(0, 5, 0, 0, 3);
+        due.is("of lot 0", x.cellOf(0, 10), 0);
+        due.is("of lot 0, beside it", x.cellOf(1, 10), 6);
         due.is("what was there went", x.cellOf(0, 11), 0);
         due.is("all", x.cellOf(0, 3), 3);
     }
@@ -202,6 +217,25 @@ public final class PromisesFieldTest {
         }
         x.hour();
         cells(x, "not over corners, not round the edge", 3, 20, 60, 0, 20);
+    }
+
+    private static void hourInTheLargestField() {
+        OilTown x = new OilTown();
+        x.field(6, 6);
+        x.cell(35, 8, 0, 0, 100);
+        x.cell(34, 8, 0, 0, 0);
+        x.cell(29, 8, 0, 100, 0);
+        x.cell(28, 0, 0, 0, 0);
+        x.cell(23, 0, 0, 0, 0);
+        x.hour();
+        due.is("the last cell", x.cellOf(35, 3), 80);
+        due.is("left of it", x.cellOf(34, 3), 20);
+        due.is("above it", x.cellOf(29, 5), 100);
+        x.hour();
+        due.is("the last cell: 12 left, 4 from above", x.cellOf(35, 5), 72);
+        due.is("water from above", x.cellOf(35, 2), 4);
+        due.is("left of it", x.cellOf(34, 3), 30);
+        due.is("and on, by sand 5", x.cellOf(33, 3), 2);
     }
 
     private static void hourTakesLessSand() {

@@ -99,6 +99,14 @@ public final class PromisesKeepTest {
         due.is("stand(0)", x.stand(0), 1);
         due.holds("all is as it was", before.equals(picture(x)));
         x.field(6, 6);
+        x.lay(35, 5);
+        x.owner(5, 1);
+        x.drill(1, 35, 44);
+        x.drill(1, 35, 45);
+        x.lease(6, 1, 77, 66);
+        x.lay(0, 5);
+        x.cell(0, 3, 5, 7, 300);
+        x.hour();
         x.stand(0);
         due.holds("all is as it was ahead of field", before.equals(picture(x)));
         OilTown twin = busyTown();

@@ -189,6 +189,10 @@ public final class PromisesOrdersTest {
         due.is("fault", x.fault(), 0);
         due.is("line(0, 0)", x.line(0, 0), 1);
         due.is("told anew: not void", x.line(1, 3), 0);
+        x.voids(1);
+        due.is("orders", Due.orders(x, "shut; shut;"), -16);
+        due.is("orders", Due.orders(x, "near 1; apart 1;"), 2);
+        due.is("told anew: not void", x.line(1, 3), 0);
         due.is("an empty text", x.orders(), 0);
         due.is("tells no lines", x.count(6), 0);
     }
@@ -305,6 +309,8 @@ public final class PromisesOrdersTest {
             x.hour();
         }
         due.is("excepted", x.lets(0, 2, 1), 9);
+        Due.orders(x, "except 0; near 9; apart 9;");
+        due.is("excepted by the first line", x.lets(0, 2, 1), 9);
         due.is("excepted", x.lets(0, 1, 0), 9);
     }
 }

@@ -14,6 +14,8 @@ public final class PromisesRacesTest {
         wellsThatStand();
         fourRace();
         flowsInARace();
+        waterInARace();
+        mustAlone();
         nothingChanges();
         due.end();
     }
@@ -62,6 +64,9 @@ public final class PromisesRacesTest {
 
     private static void state() {
         OilTown x = Due.withPersons(3);
+        x.spot(1, 0);
+        due.is("the first has none", x.gain(2, 1, 1, 1, 0, 0), -100002);
+        x = Due.withPersons(3);
         x.spot(0, 0);
         due.is("one has none", x.gain(2, 1, 1, 1, 0, 0), -100002);
         due.is("one has none", x.steady(2, 1, 1, 1, 0), OilTown.STATE);
@@ -198,6 +203,35 @@ public final class PromisesRacesTest {
         due.is("nothing in the first hour", x.gain(1, 60, 0, 1, 1, 0), 0);
         due.is("20 in the second", x.gain(1, 60, 0, 2, 1, 0), 20);
         due.is("16 in the third", x.gain(1, 60, 0, 3, 1, 0), 36);
+    }
+
+    private static void waterInARace() {
+        OilTown x = Due.withPersons(1);
+        x.field(2, 1);
+        x.cell(0, 8, 0, 60, 40);
+        x.cell(1, 8, 0, 0, 0);
+        x.spot(0, 0);
+        // 40 up: 16 of oil, 24 of water; 60 * 8 / 40 = 12 go, 4 of 24 and 7 of 36; 20 and 29 stay: 40 of 49
+        due.is("water comes up and flows too", x.gain(1, 40, 0, 2, 1, 0), 16 + 16);
+        x.spot(0, 1);
+        // 8 of oil and 12 of water come: all up; then 80 * 8 / 40 = 16 of 32 and 48: 6 and 9
+        due.is("water flows to it", x.gain(1, 60, 0, 3, 1, 0), 8 + 6);
+        x.cell(0, 8, 0, 0, 50);
+        x.cell(1, 8, 0, 0, 0);
+        due.is("from the first cell", x.gain(1, 60, 0, 2, 1, 0), 10);
+    }
+
+    /** On new objects, so that no call ahead has run the race. */
+    private static void mustAlone() {
+        due.is("must of a new object", shared(100).must(2, 30, 50, 2, 0), 2);
+        due.is("steady of a new object", shared(100).steady(2, 30, 50, 2, 1), 1);
+        OilTown x = shared(100);
+        x.gain(1, 1, 999, 24, 1, 0);
+        due.is("not what was raced ahead", x.must(2, 30, 40, 2, 1), 1);
+        x.cell(0, 0, 0, 0, 0);
+        due.is("not the field that was", x.must(2, 30, 40, 2, 0), 0);
+        due.is("not the field that was", x.steady(2, 30, 40, 2, 0), 1);
+        due.is("not the field that was", x.steady(2, 30, 40, 2, 3), 0);
     }
 
     private static void nothingChanges() {

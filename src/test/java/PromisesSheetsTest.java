@@ -102,6 +102,18 @@ public final class PromisesSheetsTest {
         due.is("cell 0", x.cellOf(0, 3), 201);
         due.is("cell 1", x.cellOf(1, 3), 301);
         due.is("count(1)", x.count(1), 502);
+        x.sheet(2, 0, 2);
+        due.is("a sum of 0", x.scan(2, 0, 0), 0);
+        due.is("what was there went", x.count(1), 0);
+        x.field(6, 6);
+        x.sheet(2, 1, 72);
+        for (int i = 35; i < 72; i++) {
+            x.write(2, i, i);
+        }
+        due.is("the largest field, the last cells", x.scan(2, 1, 36), 36 * (36 + 71) / 2);
+        due.is("its last", x.cellOf(35, 18), 71);
+        due.is("from one cell ahead", x.scan(2, 1, 35), 36 * (35 + 70) / 2);
+        due.is("from one cell behind", x.scan(2, 1, 37), -12);
     }
 
     private static void scanFaults() {

@@ -61,6 +61,14 @@ public final class RandomRunsTest {
                 tellOrders();
             } else if (dice < 33) {
                 fillSheet();
+            } else if (!wild && dice < 36) {
+                raceForOne();
+            } else if (!wild && dice < 37) {
+                call("keep");
+            } else if (!wild && dice < 40) {
+                call("stand", random.nextInt(3));
+            } else if (!wild && dice < 42) {
+                drillAndLease();
             } else {
                 Method m = face.get(random.nextInt(face.size()));
                 if (m.getName().equals("field") && random.nextInt(6) != 0) {
@@ -138,6 +146,35 @@ public final class RandomRunsTest {
         call("orders");
         call("fault");
         call("count", 6);
+    }
+
+    /** Races for few cells at a cost that is about what there is to gain: where sets are steady by a little. */
+    private void raceForOne() throws Exception {
+        int n = 1 + random.nextInt(4), will = random.nextInt(61), hours = 1 + random.nextInt(8);
+        int cells = town.count(0), first = random.nextInt(cells);
+        for (int p = 0; p < n; p++) {
+            call("spot", p, random.nextInt(3) == 0 ? random.nextInt(cells) : first);
+        }
+        int alone = Math.max(0, town.gain(n, will, 0, hours, 1, 0) - town.gain(n, will, 0, hours, 0, 0));
+        int cost = Math.min(999, random.nextBoolean() ? alone : random.nextInt(alone + 1));
+        for (int what = 0; what < 4; what++) {
+            call("steady", n, will, cost, hours, what);
+        }
+        for (int p = 0; p < n; p++) {
+            call("must", n, will, cost, hours, p);
+            call("gain", n, will, cost, hours, random.nextInt(1 << n), p);
+        }
+    }
+
+    /** Few lots and few stamps, so that leases meet; wells of those who hold. */
+    private void drillAndLease() throws Exception {
+        for (int i = 0; i < 3; i++) {
+            call("lease", random.nextInt(3), random.nextInt(6), 1 + random.nextInt(30), random.nextInt(4));
+            int c = random.nextInt(town.count(0));
+            int lot = town.cellOf(c, 4);
+            call("drill", lot < 0 ? 0 : town.holds(lot), c, random.nextInt(61));
+            call("sell", random.nextInt(6), 1 + random.nextInt(60));
+        }
     }
 
     private static String blanks(int n) {
