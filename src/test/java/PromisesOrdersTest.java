@@ -136,24 +136,16 @@ public final class PromisesOrdersTest {
         text("from 1 apart   99", -25, 3);
     }
 
-    private static String shuts(int n) {
-        StringBuilder text = new StringBuilder();
-        for (int i = 0; i < n; i++) {
-            text.append("from").append(i).append("shut;");
-        }
-        return text.toString();
-    }
-
     private static void faultsOfLines() {
-        text(shuts(12), 12, 0);
-        text(shuts(13), -132, 4);
-        text(shuts(12) + "  near 1;", -134, 4);
-        text(shuts(12) + "from", -132, 4);
-        text(shuts(12) + "from0shut;", -132, 4);
-        text(shuts(12) + "nearer", -132, 1);
-        text(shuts(12) + "   ", 12, 0);
+        text(Towns.shuts(12), 12, 0);
+        text(Towns.shuts(13), -132, 4);
+        text(Towns.shuts(12) + "  near 1;", -134, 4);
+        text(Towns.shuts(12) + "from", -132, 4);
+        text(Towns.shuts(12) + "from0shut;", -132, 4);
+        text(Towns.shuts(12) + "nearer", -132, 1);
+        text(Towns.shuts(12) + "   ", 12, 0);
         // a token that begins no line is misplaced behind twelve lines as it is behind one
-        text(shuts(12) + ";", -132, 2);
+        text(Towns.shuts(12) + ";", -132, 2);
     }
 
     private static void faultsOfWhatIsTold() {
@@ -227,15 +219,9 @@ public final class PromisesOrdersTest {
 
     /** One cell of oil with a well that draws 40 a shift, for some shifts. */
     private static OilTown drawn(int shifts) {
-        OilTown x = Due.withPersons(1);
-        x.field(1, 1);
-        x.lay(0, 0);
-        x.owner(0, 0);
-        x.cell(0, 0, 0, 0, 999);
+        OilTown x = Towns.oneCell(1, 999, 0);
         x.drill(0, 0, 10);
-        for (int i = 0; i < 4 * shifts; i++) {
-            x.hour();
-        }
+        Towns.hours(x, 4 * shifts);
         return x;
     }
 

@@ -21,18 +21,8 @@ public final class PromisesWellsTest {
         due.end();
     }
 
-    /** One cell of oil, owned by person 0. */
-    private static OilTown oneCell(int persons, int oil) {
-        OilTown x = Due.withPersons(persons);
-        x.field(1, 1);
-        x.lay(0, 0);
-        x.owner(0, 0);
-        x.cell(0, 0, 0, 0, oil);
-        return x;
-    }
-
     private static void drill() {
-        OilTown x = oneCell(2, 100);
+        OilTown x = Towns.oneCell(2, 100, 0);
         int[][] bad = {
             {-1, 0, 5}, {2, 0, 5}, {0, -1, 5}, {0, 1, 5}, {0, 0, -1}, {0, 0, 61}, {1, 0, 61}, {MIN, 0, 0}, {0, MAX, 0}
         };
@@ -46,7 +36,7 @@ public final class PromisesWellsTest {
     }
 
     private static void drillFull() {
-        OilTown x = oneCell(2, 100);
+        OilTown x = Towns.oneCell(2, 100, 0);
         for (int k = 0; k < 10; k++) {
             due.is("drill " + k, x.drill(0, 0, k), k);
         }
@@ -128,7 +118,7 @@ public final class PromisesWellsTest {
     }
 
     private static void whyExcepted() {
-        OilTown x = oneCell(2, 0);
+        OilTown x = Towns.oneCell(2, 0, 0);
         x.drill(0, 0, 1);
         Due.orders(x, "apart 9; from 1 except 0; except 1;");
         due.is("not yet", x.why(0, 0), 3);
@@ -148,7 +138,7 @@ public final class PromisesWellsTest {
     }
 
     private static void will() {
-        OilTown x = oneCell(1, 100);
+        OilTown x = Towns.oneCell(1, 100, 0);
         x.drill(0, 0, 7);
         due.is("will(0, 60)", x.will(0, 60), 7);
         for (int v : new int[] {-1, 61, MIN, MAX}) {
@@ -161,7 +151,7 @@ public final class PromisesWellsTest {
     }
 
     private static void open() {
-        OilTown x = oneCell(1, 100);
+        OilTown x = Towns.oneCell(1, 100, 0);
         x.drill(0, 0, 7);
         due.is("open(0, true)", x.open(0, true), 1);
         due.is("open(0, false)", x.open(0, false), 1);
@@ -201,7 +191,7 @@ public final class PromisesWellsTest {
     }
 
     private static void drewByShifts() {
-        OilTown x = oneCell(1, 900);
+        OilTown x = Towns.oneCell(1, 900, 0);
         x.hour();
         x.drill(0, 0, 10);
         for (int i = 0; i < 9; i++) {
@@ -219,7 +209,7 @@ public final class PromisesWellsTest {
     }
 
     private static void drewLet() {
-        OilTown x = oneCell(1, 900);
+        OilTown x = Towns.oneCell(1, 900, 0);
         x.drill(0, 0, 10);
         for (int i = 0; i < 16; i++) {
             x.hour();
@@ -267,7 +257,7 @@ public final class PromisesWellsTest {
     }
 
     private static void sell() {
-        OilTown x = oneCell(2, 900);
+        OilTown x = Towns.oneCell(2, 900, 0);
         x.drill(0, 0, 60);
         for (int i = 0; i < 3; i++) {
             x.hour();
@@ -292,7 +282,7 @@ public final class PromisesWellsTest {
     }
 
     private static void price() {
-        OilTown x = oneCell(2, 999);
+        OilTown x = Towns.oneCell(2, 999, 0);
         x.drill(0, 0, 60);
         for (int k = 1; k < 10; k++) {
             x.drill(0, 0, 60);
