@@ -14,6 +14,9 @@ public final class FullAndEmptyTest {
         fullTape();
         fullHours();
         fullLines();
+        fullOfEveryNumber();
+        fullFieldStandsAgain();
+        fullLargestFieldStandsAgain();
         roomAgainBehindField();
         roomAgainBehindStand();
         newObjectHasNobody();
@@ -28,7 +31,7 @@ public final class FullAndEmptyTest {
     }
 
     private static void theBrimIsFull() {
-        int[] want = {12, -1, 0, 6, 12, 10, 12, 199, -1, 0, 0, 3, 160, 72};
+        int[] want = {12, -1, 0, 6, 12, 10, 12, 199, -1, 21, -1, 3, 160, 72};
         OilTown x = brim.make();
         for (int what : new int[] {0, 2, 3, 4, 5, 6, 7, 9, 11, 12, 13}) {
             due.is("brim: count(" + what + ")", x.count(what), want[what]);
@@ -126,11 +129,89 @@ public final class FullAndEmptyTest {
     private static void fullLines() {
         OilTown x = new OilTown();
         due.is("12 LINES", Due.orders(x, Towns.shuts(12)), 12);
+        due.is("line(11, 0)", x.line(11, 0), 4);
         due.is("line(11, 1)", x.line(11, 1), 11);
         due.is("line(12, 1)", x.line(12, 1), BAD);
+        due.is("the 12th is found VOID", x.voids(11), 0);
+        due.is("12 others", Due.orders(x, Towns.shuts(11) + "from 49 each 999;"), 12);
+        int[] want = {2, 49, 999, 0};
+        for (int what = 0; what < 4; what++) {
+            due.is("line(11, " + what + ")", x.line(11, what), want[what]);
+        }
         due.is("13 LINES", Due.orders(x, Towns.shuts(13)), -132);
         due.is("FAULT", x.fault(), 4);
         due.is("LINES stay", x.count(6), 12);
+    }
+
+    /** Each PERSON, LEASE, WELL and LINE of a full town has numbers of its own. */
+    private static void fullOfEveryNumber() {
+        OilTown x = Due.withPersons(6);
+        x.field(6, 6);
+        for (int c = 0; c < 10; c++) {
+            x.lay(3 * c, c % 8);
+            x.cell(3 * c, 0, 0, 0, 100);
+        }
+        for (int l = 0; l < 8; l++) {
+            x.owner(l, (l + 1) % 6);
+        }
+        for (int k = 0; k < 10; k++) {
+            x.drill((k % 8 + 1) % 6, 3 * k, 5 + k);
+        }
+        for (int k = 0; k < 12; k++) {
+            x.lease((k + 3) % 8, (k + 2) % 6, 100 + k, 50 * k);
+        }
+        due.is("came up", x.hour(), 95);
+        for (int k = 0; k < 10; k++) {
+            int[] want = {(k % 8 + 1) % 6, 3 * k, 5 + k, 1, 5 + k, 0};
+            for (int what = 0; what < want.length; what++) {
+                due.is("wellOf(" + k + ", " + what + ")", x.wellOf(k, what), want[what]);
+            }
+            for (int l = 0; l <= 8; l++) {
+                due.is("wellOf(" + k + ", 1" + l + ")", x.wellOf(k, 10 + l), l == k % 8 ? 5 + k : 0);
+            }
+            due.is("drew(" + k + ", 0, 0)", x.drew(k, 0, 0), 5 + k);
+            due.is("drew(" + k + ", 1, 0)", x.drew(k, 1, 0), 0);
+        }
+        for (int k = 0; k < 12; k++) {
+            int[] want = {(k + 3) % 8, (k + 2) % 6, 100 + k, 50 * k, 0};
+            for (int what = 0; what < want.length; what++) {
+                due.is("leaseOf(" + k + ", " + what + ")", x.leaseOf(k, what), want[what]);
+            }
+        }
+    }
+
+    private static void fullFieldStandsAgain() {
+        edges.unchanged("field, then stand", brim, x -> {
+            x.field(1, 1);
+            x.stand(2);
+        });
+        edges.unchanged("another that stood, then stand", brim, x -> {
+            x.stand(0);
+            x.hour();
+            x.stand(2);
+        });
+    }
+
+    private static void fullLargestFieldStandsAgain() {
+        OilTown x = new OilTown();
+        x.field(6, 6);
+        for (int c = 0; c < 36; c++) {
+            x.lay(c, c % 8);
+            x.cell(c, c % 10, c, 36 + c, 72 + c);
+        }
+        x.lay(35, NONE);
+        x.cell(34, 1, 2, 3, 4);
+        x.keep();
+        x.field(6, 6);
+        x.stand(0);
+        int[] last = {5, 35, 71, 107, NONE, 213};
+        int[] ahead = {1, 2, 3, 4, 2, 9};
+        for (int what = 0; what < 6; what++) {
+            due.is("cellOf(35, " + what + ")", x.cellOf(35, what), last[what]);
+            due.is("cellOf(34, " + what + ")", x.cellOf(34, what), ahead[what]);
+        }
+        due.is("OIL of LOT 3", x.cellOf(35, 13), 107);
+        due.is("OIL of LOT 2", x.cellOf(34, 12), 4);
     }
 
     private static void roomAgainBehindField() {

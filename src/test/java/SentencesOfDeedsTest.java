@@ -19,6 +19,8 @@ public final class SentencesOfDeedsTest {
         wellsAreNumberedAsTheyCome();
         wellsAreOpenAtFirst();
         willFromTheNextHourOn();
+        eachWellHasItsOwn();
+        salesOfEachPerson();
         layKeepsWhatWasDrawn();
         toldOfNoWells();
         toldAboveWhatCameUp();
@@ -224,6 +226,64 @@ public final class SentencesOfDeedsTest {
         due.is("what it was", x.will(0, 1), 0);
         due.is("1", x.hour(), 1);
         due.is("all that it DREW", x.wellOf(0, 4), 61);
+    }
+
+    /** WILL and open of a WELL are that WELL's alone. */
+    private static void eachWellHasItsOwn() {
+        OilTown x = Towns.oneCell(1, 999, 0);
+        for (int k = 0; k < 3; k++) {
+            x.drill(0, 0, 10 + k);
+        }
+        due.is("will(1, 5)", x.will(1, 5), 11);
+        due.is("open(2, false)", x.open(2, false), 1);
+        due.is("open(2, false)", x.open(2, false), 0);
+        due.is("open(1, true)", x.open(1, true), 1);
+        int[] will = {10, 5, 12};
+        int[] open = {1, 1, 0};
+        for (int k = 0; k < 3; k++) {
+            due.is("WILL of WELL " + k, x.wellOf(k, 2), will[k]);
+            due.is("open: WELL " + k, x.wellOf(k, 3), open[k]);
+        }
+        due.is("hour", x.hour(), 15);
+        due.is("will(2, 1)", x.will(2, 1), 12);
+        due.is("open(2, true)", x.open(2, true), 0);
+        due.is("hour", x.hour(), 16);
+        Towns.hours(x, 3);
+        int[] first = {40, 20, 3};
+        for (int k = 0; k < 3; k++) {
+            due.is("SHIFT 0 of WELL " + k, x.drew(k, 0, 0), first[k]);
+            due.is("SHIFT 1 of WELL " + k, x.drew(k, 1, 0), first[k] / 4 + (k == 2 ? 1 : 0));
+        }
+    }
+
+    /** A sale is of one PERSON's TANK; "PRICE .. of what was sold" is of all. */
+    private static void salesOfEachPerson() {
+        OilTown x = Due.withPersons(6);
+        x.field(6, 1);
+        for (int p = 0; p < 6; p++) {
+            x.lay(p, p);
+            x.owner(p, p);
+            x.cell(p, 0, 0, 0, 500);
+            x.drill(p, p, 10 + p);
+        }
+        Towns.hours(x, 3);
+        for (int p = 0; p < 6; p++) {
+            due.is("sell of " + p, x.sell(p, 5 + p), 100 * (5 + p));
+        }
+        for (int p = 0; p < 6; p++) {
+            due.is("TANK of " + p, x.told(p, 0), 25 + 2 * p);
+            due.is("sold of " + p, x.told(p, 1), 5 + p);
+            due.is("paid to " + p, x.told(p, 2), 100 * (5 + p));
+        }
+        due.is("OIL in TANKS", x.count(8), 180);
+        due.is("sold", x.count(9), 45);
+        x.hour();
+        due.is("PRICE behind 45", x.price(1), 91);
+        due.is("all of a TANK", x.sell(5, 50), 4550);
+        due.is("TANK of 5", x.told(5, 0), 0);
+        due.is("paid to 5", x.told(5, 2), 5550);
+        due.is("TANK of 0", x.told(0, 0), 35);
+        due.is("sold", x.count(9), 95);
     }
 
     private static void layKeepsWhatWasDrawn() {

@@ -212,24 +212,24 @@ public final class SentencesOfHoursTest {
     }
 
     /**
-     * A CELL with so much OIL of LOTS 1, 3, 6 and of place 8 (0 to 199 each), of LOT 0 now, that person 0 owns; above,
+     * A CELL with so much OIL of LOTS 0, 3, 6 and of place 8 (0 to 199 each), of LOT 1 now, that person 0 owns; above,
      * left, right and below of it are CELLS that had that OIL. The corners are of SAND 0.
      */
-    private static OilTown mixed(int of1, int of3, int of6, int of8) {
+    private static OilTown mixed(int of0, int of3, int of6, int of8) {
         OilTown x = Due.withPersons(1);
         int[] corners = {0, 2, 6, 8};
         for (int c : corners) {
             x.cell(c, 0, 0, 0, 0);
         }
         int[] from = {1, 3, 5, 7};
-        int[] lots = {1, 3, 6, NONE};
-        int[] goes = {of1, of3, of6, of8};
+        int[] lots = {0, 3, 6, NONE};
+        int[] goes = {of0, of3, of6, of8};
         for (int i = 0; i < 4; i++) {
             x.lay(from[i], lots[i]);
             x.cell(from[i], 8, 0, 0, 5 * goes[i]);
         }
-        x.lay(4, 0);
-        x.owner(0, 0);
+        x.lay(4, 1);
+        x.owner(1, 0);
         x.cell(4, 8, 0, 0, 0);
         x.hour();
         for (int c : from) {
@@ -239,7 +239,7 @@ public final class SentencesOfHoursTest {
     }
 
     private static void lots(OilTown x, String when, int... want) {
-        int[] lots = {1, 3, 6, 8};
+        int[] lots = {0, 3, 6, 8};
         for (int i = 0; i < 4; i++) {
             due.is(when + ": of LOT " + lots[i], x.wellOf(0, 10 + lots[i]), want[i]);
         }
@@ -252,7 +252,7 @@ public final class SentencesOfHoursTest {
         x.drill(0, 4, n);
         x.hour();
         lots(x, when, want);
-        int[] lots = {1, 3, 6, 8};
+        int[] lots = {0, 3, 6, 8};
         for (int i = 0; i < 4; i++) {
             due.is(when + ", left of LOT " + lots[i], x.cellOf(4, 10 + lots[i]), of[i] - want[i]);
             due.is(when + ", told of LOT " + lots[i], x.told(0, 10 + lots[i]), want[i]);
@@ -273,6 +273,8 @@ public final class SentencesOfHoursTest {
         taken(3, new int[] {1, 1, 1, 1}, 1, 1, 1, 0);
         // 1.8 and 1.2: the one that lacks is of the least number, not of the greatest share
         taken(3, new int[] {4, 6, 0, 0}, 2, 1, 0, 0);
+        // 4.8, 0.6 and 0.6: two lack
+        taken(6, new int[] {8, 1, 1, 0}, 5, 1, 0, 0);
         // 0.1, 0.1, 0.1 and 2.7: one lacks
         taken(3, new int[] {3, 3, 3, 81}, 1, 0, 0, 2);
         // 0.9, 0.9, 0.9 and 0.3: three lack
@@ -457,13 +459,13 @@ public final class SentencesOfHoursTest {
         // 20 * 8 / 40 = 4 to each: one of each LOT, of 5, then of 4, 3, 2
         x.hour();
         for (int c : new int[] {1, 3, 5, 7}) {
-            for (int l : new int[] {1, 3, 6, 8}) {
+            for (int l : new int[] {0, 3, 6, 8}) {
                 due.is("cellOf(" + c + ", 1" + l + ")", x.cellOf(c, 10 + l), 1);
             }
         }
     }
 
-    /** Left, right, above and below take one barrel each; so many are of LOTS 1, 3, 6 and of place 8. */
+    /** Left, right, above and below take one barrel each; so many are of LOTS 0, 3, 6 and of place 8. */
     private static void takenInTurn(int[] of, int... turns) {
         OilTown x = mixed(of[0], of[1], of[2], of[3]);
         String when = "of " + java.util.Arrays.toString(of);
@@ -480,10 +482,10 @@ public final class SentencesOfHoursTest {
 
     /** "for each of the four in that order": left, right, above, below; 5 * 8 / 40 is 1 to each. */
     private static void flowsInThatOrder() {
-        takenInTurn(new int[] {2, 1, 1, 1}, 1, 1, 3, 6);
-        takenInTurn(new int[] {1, 2, 1, 1}, 1, 3, 3, 6);
-        takenInTurn(new int[] {1, 1, 2, 1}, 1, 3, 6, 6);
-        takenInTurn(new int[] {1, 1, 1, 2}, 1, 3, 6, 8);
+        takenInTurn(new int[] {2, 1, 1, 1}, 0, 0, 3, 6);
+        takenInTurn(new int[] {1, 2, 1, 1}, 0, 3, 3, 6);
+        takenInTurn(new int[] {1, 1, 2, 1}, 0, 3, 6, 6);
+        takenInTurn(new int[] {1, 1, 1, 2}, 0, 3, 6, 8);
         takenInTurn(new int[] {0, 0, 1, 4}, 6, 8, 8, 8);
         takenInTurn(new int[] {0, 5, 0, 0}, 3, 3, 3, 3);
     }

@@ -20,7 +20,10 @@ public final class SentencesOfRacesTest {
         racesBehindTheLastHour();
         flowsGoOnInARace();
         flowsOfARaceAddUp();
+        flowsOfARaceOnTwoSides();
         flowsOfARaceEnd();
+        racesInTheLargestField();
+        racesOfManyWells();
         gainMayBeBelowZero();
         steadyIfNobodyGainsMore();
         steadyIfAsMuch();
@@ -261,6 +264,71 @@ public final class SentencesOfRacesTest {
         x.cell(2, 8, 0, 100, 0);
         // 10 of OIL left, 18 and 18 of WATER come: 40 of 46, of them 40 * 10 / 46 = 8 of OIL
         due.is("WATER adds up too", x.gain(1, 40, 0, 2, 1, 0), 48);
+    }
+
+    private static void flowsOfARaceOnTwoSides() {
+        OilTown x = Due.withPersons(1);
+        x.field(3, 1);
+        x.cell(0, 8, 0, 0, 100);
+        x.cell(1, 8, 0, 0, 0);
+        x.cell(2, 4, 0, 0, 200);
+        x.spot(0, 1);
+        // 20 and 20 come; 40 up, 80 / 5 = 16 and 180 / 10 = 18 come; 34 up, 64 / 5 = 12 and 162 / 10 = 16 come; 28 up
+        int[] gains = {0, 40, 74, 102};
+        for (int hours = 1; hours <= 4; hours++) {
+            due.is("from both sides, " + hours + " HOURS", x.gain(1, 60, 0, hours, 1, 0), gains[hours - 1]);
+        }
+    }
+
+    private static void racesInTheLargestField() {
+        OilTown x = Due.withPersons(1);
+        x.field(6, 6);
+        for (int c : new int[] {29, 34, 35}) {
+            x.cell(c, 8, 0, 0, c == 35 ? 100 : 0);
+        }
+        for (int c : new int[] {23, 28, 33}) {
+            x.cell(c, 0, 0, 0, 0);
+        }
+        x.spot(0, 35);
+        due.is("the last CELL", x.gain(1, 60, 0, 1, 1, 0), 60);
+        due.is("8 and 8 flow, 24 up", x.gain(1, 60, 0, 2, 1, 0), 84);
+        x.spot(0, 34);
+        due.is("left of it", x.gain(1, 60, 0, 2, 1, 0), 20);
+        x.spot(0, 29);
+        due.is("above it", x.gain(1, 60, 0, 2, 1, 0), 20);
+        x.cell(35, 8, 40, 60, 0);
+        due.is("GAS and WATER alone", x.gain(1, 60, 0, 2, 1, 0), 0);
+        x.cell(35, 8, 40, 30, 30);
+        due.is("20 of them, half OIL", x.gain(1, 60, 0, 2, 1, 0), 10);
+    }
+
+    /** "with all WELLS as they are": each of its own PERSON, CELL and WILL, open or shut. */
+    private static void racesOfManyWells() {
+        OilTown x = Due.withPersons(4);
+        x.field(4, 1);
+        for (int p = 0; p < 4; p++) {
+            x.lay(p, p);
+            x.owner(p, p);
+            x.cell(p, 0, 0, 0, 50 + p);
+            x.spot(p, 3 - p);
+        }
+        x.drill(3, 3, 9);
+        x.drill(0, 0, 20);
+        x.drill(1, 1, 30);
+        x.drill(2, 2, 40);
+        x.open(2, false);
+        int[] none = {20, 0, 40, 9};
+        int[] all = {20 + 44, 12, 40 + 51, 9 + 30};
+        for (int p = 0; p < 4; p++) {
+            due.is("nobody DRILLS: " + p, x.gain(4, 60, 0, 1, 0, p), none[p]);
+            due.is("all DRILL: " + p, x.gain(4, 60, 0, 1, 15, p), all[p]);
+        }
+        x.open(0, false);
+        x.open(2, true);
+        int[] turned = {20, 30, 40, 0};
+        for (int p = 0; p < 4; p++) {
+            due.is("others are open: " + p, x.gain(4, 60, 0, 1, 0, p), turned[p]);
+        }
     }
 
     /** A flow that is wanted no more in a later HOUR does not go on, while another does. */

@@ -349,6 +349,12 @@ public final class SentencesOfTapeTest {
         fault("except 0;except 6;", 3, 16);
         taken("except 0;from 1 except 0;", 2);
         fault("except 0;except 1;except 0;", 5, 25);
+        fault("except 0;except 1;except 1;", 5, 25);
+        fault("shut;except 1;except 1;", 5, 21);
+        fault("from 3 except 1;except 1;except 1;", 5, 32);
+        fault("except 1;from 3 except 1;from 3 except 1;", 5, 39);
+        taken("near 1;except 1;", 2);
+        taken("except 1;except 2;from 3 except 1;from 3 except 2;", 4);
     }
 
     /** The rule's NAME is met ahead of its NUMBER, whatever that is. */

@@ -75,6 +75,9 @@ final class Towns {
         hours(x, 100);
         x.keep();
         hours(x, 99);
+        for (int p = 0; p < 6; p++) {
+            x.sell(p, p + 1);
+        }
         x.keep();
         for (int i = 0; i < 20; i++) {
             x.feed(0x736875743b202020L);
