@@ -181,8 +181,14 @@ public final class FullAndEmptyTest {
     }
 
     private static void fullFieldStandsAgain() {
-        edges.unchanged("field, then stand", brim, x -> {
+        edges.unchanged("another full field, then stand", brim, x -> {
             x.field(1, 1);
+            x.lay(0, 5);
+            x.owner(5, 4);
+            for (int k = 0; k < 12; k++) {
+                x.drill(4, 0, 60);
+                x.lease(2, 5 - k % 6, 50 + k, k);
+            }
             x.stand(2);
         });
         edges.unchanged("another that stood, then stand", brim, x -> {
@@ -199,12 +205,12 @@ public final class FullAndEmptyTest {
             x.lay(c, c % 8);
             x.cell(c, c % 10, c, 36 + c, 72 + c);
         }
-        x.lay(35, NONE);
         x.cell(34, 1, 2, 3, 4);
         x.keep();
         x.field(6, 6);
+        x.lay(35, 7);
         x.stand(0);
-        int[] last = {5, 35, 71, 107, NONE, 213};
+        int[] last = {5, 35, 71, 107, 3, 213};
         int[] ahead = {1, 2, 3, 4, 2, 9};
         for (int what = 0; what < 6; what++) {
             due.is("cellOf(35, " + what + ")", x.cellOf(35, what), last[what]);

@@ -449,7 +449,6 @@ public final class SentencesOfHoursTest {
         for (int c : new int[] {1, 3, 5, 7}) {
             x.cell(c, 8, 0, 0, 0);
         }
-        // PUSH is 4: no WANT; with as much in another HOUR each side gets one
         x.hour();
         due.is("4 * 8 / 40 = 0", x.cellOf(4, 3), 4);
         x = mixed(5, 5, 5, 5);

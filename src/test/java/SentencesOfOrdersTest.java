@@ -25,6 +25,8 @@ public final class SentencesOfOrdersTest {
         letIsTheLeast();
         letIsNone();
         hotAboveLet();
+        hotOfEachWellAndShift();
+        hotInTheLastShift();
         priceFallsByFifths();
         priceIsFourAtLeast();
         priceOfShiftZero();
@@ -375,6 +377,38 @@ public final class SentencesOfOrdersTest {
         x.hour();
         Due.orders(x, "shut;");
         due.is("WATER is not HOT", x.count(10), 1);
+    }
+
+    private static void hotOfEachWellAndShift() {
+        OilTown x = Towns.oneCell(1, 999, 0);
+        for (int k = 0; k < 3; k++) {
+            x.drill(0, 0, 1 + k);
+        }
+        Towns.hours(x, 4);
+        x.will(1, 5);
+        Towns.hours(x, 4);
+        Due.orders(x, "each 5; from 1 each 11;");
+        int[][] hot = {{0, 0}, {3, 9}, {7, 1}};
+        for (int k = 0; k < 3; k++) {
+            for (int shift = 0; shift < 2; shift++) {
+                due.is("HOT of WELL " + k + " in SHIFT " + shift, x.drew(k, shift, 2), hot[k][shift]);
+            }
+            due.is("HOT of WELL " + k, x.wellOf(k, 6), hot[k][0] + hot[k][1]);
+        }
+        due.is("HOT of all", x.count(10), 20);
+        due.is("HOT of the PERSON", x.told(0, 5), 20);
+    }
+
+    private static void hotInTheLastShift() {
+        OilTown x = drawn(1, 49);
+        Due.orders(x, "from 49 shut;");
+        due.is("ahead of SHIFT 49", x.count(10), 0);
+        Towns.hours(x, 3);
+        due.is("THE HOUR", x.count(7), 199);
+        due.is("HOT in SHIFT 49", x.drew(0, 49, 2), 3);
+        due.is("HOT of the WELL", x.wellOf(0, 6), 3);
+        due.is("HOT of all", x.count(10), 3);
+        due.is("HOT less by that", x.voids(0), 3);
     }
 
     /** Draws 600 and sells so many in SHIFT 0; PRICE in SHIFT 1. */

@@ -14,6 +14,7 @@ public final class SentencesOfRacesTest {
         inOrderOfPersons();
         behindAllOthers();
         wellsOfThoseWhoStandBy();
+        wellsOfTheLastPerson();
         wellsThatAreShut();
         ordersAreNotAsked();
         elevenWells();
@@ -190,6 +191,19 @@ public final class SentencesOfRacesTest {
         due.is("none comes to its TANK", x.gain(1, 30, 0, 1, 0, 0), 0);
     }
 
+    /** "with all WELLS as they are": of the last PERSON too, who can not race. */
+    private static void wellsOfTheLastPerson() {
+        OilTown x = Towns.oneCell(6, 70, 0);
+        x.owner(0, 5);
+        x.drill(5, 0, 45);
+        for (int p = 0; p < 6; p++) {
+            x.spot(p, 0);
+        }
+        due.is("25 are left", x.gain(4, 60, 0, 1, 8, 3), 25);
+        due.is("none of it is the fourth's", x.gain(4, 60, 0, 1, 0, 3), 0);
+        due.is("a PERSON that can not race", x.gain(4, 60, 0, 1, 0, 5), -100000);
+    }
+
     private static void wellsThatAreShut() {
         OilTown x = Towns.oneCell(1, 70, 0);
         x.drill(0, 0, 50);
@@ -271,10 +285,10 @@ public final class SentencesOfRacesTest {
         x.field(3, 1);
         x.cell(0, 8, 0, 0, 100);
         x.cell(1, 8, 0, 0, 0);
-        x.cell(2, 4, 0, 0, 200);
+        x.cell(2, 8, 0, 0, 200);
         x.spot(0, 1);
-        // 20 and 20 come; 40 up, 80 / 5 = 16 and 180 / 10 = 18 come; 34 up, 64 / 5 = 12 and 162 / 10 = 16 come; 28 up
-        int[] gains = {0, 40, 74, 102};
+        // 20 and 40 come; 60 up, 80 / 5 = 16 and 160 / 5 = 32 come; 48 up, 64 / 5 = 12 and 128 / 5 = 25 come; 37 up
+        int[] gains = {0, 60, 108, 145};
         for (int hours = 1; hours <= 4; hours++) {
             due.is("from both sides, " + hours + " HOURS", x.gain(1, 60, 0, hours, 1, 0), gains[hours - 1]);
         }

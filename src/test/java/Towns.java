@@ -62,7 +62,7 @@ final class Towns {
         for (int l = 0; l < 8; l++) {
             x.lay(l, l);
             x.owner(l, l % 6);
-            x.cell(l, 0, 0, 0, 999);
+            x.cell(l, 0, 0, l == 3 ? 10 : 0, 999);
         }
         for (int k = 0; k < 12; k++) {
             x.lease(7, k % 6, 199, 999 - k);
